@@ -748,7 +748,8 @@ public final class MoodPlayer {
             int best = NONE;
             long bestCost = NONE;
             int bestSteps = 0;
-            for (int step = 0; step <= STEP_AGAIN; step++) {
+            for (int number = 0; number <= score.joints; number++) {
+                int step = number < score.joints ? number : STEP_AGAIN;
                 if (!isOpen(step)) {
                     continue;
                 }
@@ -767,7 +768,7 @@ public final class MoodPlayer {
             if (step == STEP_AGAIN) {
                 return score.kind[state.plays] == LOOP;
             }
-            return step < score.joints && score.from[step] == state.plays && score.behind[step] > state.done;
+            return score.from[step] == state.plays && score.behind[step] > state.done;
         }
 
         private int pieceBehind(int step) {
