@@ -170,6 +170,8 @@ public final class PromiseTest {
         due("to itself", 3, () -> x.joint(0, 4, 0, 5));
         due("to a bridge", 4, () -> x.joint(0, 4, 2, 5));
         due("one like it, another cost", NONE, () -> x.joint(0, 4, 2, 6));
+        due("one like the first", NONE, () -> x.joint(0, 1, 1, 0));
+        due("another beat", 5, () -> x.joint(0, 3, 2, 6));
         due("beat 0", NONE, () -> x.joint(0, 0, 2, 0));
         due("a beat too many", NONE, () -> x.joint(0, 5, 2, 0));
         due("cost -1", NONE, () -> x.joint(0, 2, 2, -1));
@@ -182,7 +184,7 @@ public final class PromiseTest {
         due("to no piece", NO_ELEMENT, () -> x.joint(0, 1, 5, 0));
         due("from -1", NO_ELEMENT, () -> x.joint(-1, 1, 0, 0));
         due("to -1", NO_ELEMENT, () -> x.joint(0, 99, -1, 1000));
-        due("JOINTS", 5, () -> x.now(10));
+        due("JOINTS", 6, () -> x.now(10));
 
         MoodPlayer y = new MoodPlayer();
         y.piece(LOOP, 64, 24, 0, 1);
@@ -374,6 +376,21 @@ public final class PromiseTest {
         due("of like cost: fewer steps", "1", () -> row(z));
         z.price(0, 13);
         due("cheaper by a tick", "100 0", () -> row(z));
+
+        MoodPlayer w = new MoodPlayer();
+        w.piece(LOOP, 2, 24, 0, 1);
+        w.piece(LOOP, 2, 24, 0, 1);
+        w.piece(BRIDGE, 1, 24, 0, 1);
+        w.piece(LOOP, 1, 24, 1, 1);
+        w.joint(2, 1, 3, 0);
+        w.joint(1, 1, 2, 0);
+        w.joint(1, 2, 3, 0);
+        w.joint(0, 1, 1, 0);
+        w.play(0);
+        due("fewer steps of like cost, later on the way", 2, () -> w.ask(0));
+        due("its row", "3 2", () -> row(w));
+        w.joint(0, 1, 2, 1);
+        due("of like cost and as many steps: the first", "3 2", () -> row(w));
     }
 
     private static void wayFoundAnew() {
@@ -416,6 +433,16 @@ public final class PromiseTest {
         due("again by the way, though turns are at most", "216:1:0", () -> event(y, 3));
         due("met", "216:4:1", () -> event(y, 4));
         due("what was logged", 5, () -> y.now(8));
+
+        MoodPlayer z = five();
+        z.joint(0, 1, 1, 0);
+        z.play(0);
+        z.ask(1);
+        z.piece(LOOP, 1, 24, 0, 1);
+        z.play(5);
+        due("a piece made later, from which nothing leads", "none", () -> row(z));
+        z.joint(5, 1, 0, 0);
+        due("until a joint does", "1 0", () -> row(z));
     }
 
     private static void cost() {
@@ -513,6 +540,20 @@ public final class PromiseTest {
         due("three can be come to", 100, () -> x.lacks(3, 0));
         x.joint(1, 1, 0, 0);
         due("a joint between did", NONE, () -> x.lacks(3, 0));
+
+        MoodPlayer y = new MoodPlayer();
+        for (int i = 0; i < 6; i++) {
+            y.piece(LOOP, 1, 24, i == 5 ? 8 : 0, 1);
+        }
+        y.joint(2, 1, 1, 0);
+        y.joint(3, 1, 2, 0);
+        y.joint(4, 1, 3, 0);
+        due("the first that can be come to in three steps", 105, () -> y.lacks(4, 3));
+        due("from the last of them", 105, () -> y.lacks(1, 3));
+        y.joint(1, 1, 0, 0);
+        due("in four", 5, () -> y.lacks(4, 3));
+        y.joint(0, 1, 4, 0);
+        due("in a ring", 5, () -> y.lacks(2, 3));
         due("mood -1", BAD_ARGUMENT, () -> x.lacks(0, -1));
         due("mood 8", BAD_ARGUMENT, () -> x.lacks(0, 8));
         due("a layer", NO_ELEMENT, () -> x.lacks(4, 0));
@@ -583,6 +624,20 @@ public final class PromiseTest {
         x.go(24);
         due("those that are on go up again", "0 1 1", () -> x.level(1) + " " + x.level(2) + " " + x.level(3));
         due("tops stay in silence", 8, () -> x.layer(2, 0));
+
+        MoodPlayer y = new MoodPlayer();
+        y.piece(LAYER, 1, 24, 0, 1);
+        y.piece(LOOP, 1, 24, 0, 1);
+        y.layer(0, 8);
+        y.play(1);
+        y.go(72);
+        due("a layer that is the first piece", "3 3", () -> y.level(0) + " " + y.now(7));
+        for (int i = 2; i < 20; i++) {
+            y.piece(LAYER, 1, 24, 0, 1);
+        }
+        y.layer(19, 8);
+        y.go(24);
+        due("one that is the last", "4 1 5", () -> y.level(0) + " " + y.level(19) + " " + y.now(7));
     }
 
     private static void sting() {
