@@ -5,54 +5,54 @@ public final class EdgeTest extends Check {
     private static final int[] NO_PIECES = {-1, 5, 20, 100, LEAST, HIGHEST};
 
     public static void main(String[] args) {
-        newObject();
-        pieceNumber();
-        pieceNone();
-        jointNumber();
-        jointNone();
-        jointNoPieces();
-        priceWas();
-        priceWrong();
-        playBegins();
-        playFalse();
-        playNoPiece();
-        askReplaces();
-        askSteps();
-        askNone();
-        askMet();
-        askWrong();
-        leaveWhich();
-        wayLeft();
-        wayCount();
-        wayNoStep();
-        costLeft();
-        costNone();
-        reachLeastTime();
-        reachHasIt();
-        reachNone();
-        reachWrong();
-        lacksPair();
-        lacksNone();
-        lacksWrong();
-        layerTop();
-        layerNone();
-        layerNoPiece();
-        stingWaits();
-        stingNone();
-        stingNoPiece();
-        goTime();
-        goWrong();
-        nowWhats();
-        nowWrong();
-        levelOf();
-        levelNoPiece();
-        logEldest();
-        logWrong();
-        keepWas();
-        keepWrong();
-        goOnTrue();
-        goOnFalse();
-        goOnWrong();
+        check(EdgeTest::newObject);
+        check(EdgeTest::pieceNumber);
+        check(EdgeTest::pieceNone);
+        check(EdgeTest::jointNumber);
+        check(EdgeTest::jointNone);
+        check(EdgeTest::jointNoPieces);
+        check(EdgeTest::priceWas);
+        check(EdgeTest::priceWrong);
+        check(EdgeTest::playBegins);
+        check(EdgeTest::playFalse);
+        check(EdgeTest::playNoPiece);
+        check(EdgeTest::askReplaces);
+        check(EdgeTest::askSteps);
+        check(EdgeTest::askNone);
+        check(EdgeTest::askMet);
+        check(EdgeTest::askWrong);
+        check(EdgeTest::leaveWhich);
+        check(EdgeTest::wayLeft);
+        check(EdgeTest::wayCount);
+        check(EdgeTest::wayNoStep);
+        check(EdgeTest::costLeft);
+        check(EdgeTest::costNone);
+        check(EdgeTest::reachLeastTime);
+        check(EdgeTest::reachHasIt);
+        check(EdgeTest::reachNone);
+        check(EdgeTest::reachWrong);
+        check(EdgeTest::lacksPair);
+        check(EdgeTest::lacksNone);
+        check(EdgeTest::lacksWrong);
+        check(EdgeTest::layerTop);
+        check(EdgeTest::layerNone);
+        check(EdgeTest::layerNoPiece);
+        check(EdgeTest::stingWaits);
+        check(EdgeTest::stingNone);
+        check(EdgeTest::stingNoPiece);
+        check(EdgeTest::goTime);
+        check(EdgeTest::goWrong);
+        check(EdgeTest::nowWhats);
+        check(EdgeTest::nowWrong);
+        check(EdgeTest::levelOf);
+        check(EdgeTest::levelNoPiece);
+        check(EdgeTest::logEldest);
+        check(EdgeTest::logWrong);
+        check(EdgeTest::keepWas);
+        check(EdgeTest::keepWrong);
+        check(EdgeTest::goOnTrue);
+        check(EdgeTest::goOnFalse);
+        check(EdgeTest::goOnWrong);
         end("the promises' edges hold");
     }
 
@@ -327,6 +327,16 @@ public final class EdgeTest extends Check {
         is(NONE, x.ask(6));
         is(0, x.ask(0));
         is("-1 -1", x.leave() + " " + x.way(NONE));
+        MoodPlayer y = new MoodPlayer();
+        y.piece(LOOP, 2, 24, 1, 9);
+        y.piece(LOOP, 1, 24, 2, 1);
+        y.joint(0, 1, 1, 0);
+        y.play(0);
+        is(1, y.ask(1));
+        is(0, y.ask(0));
+        is("none -1", way(y) + " " + y.cost());
+        y.go(48);
+        is("0 0 2 0", plays(y));
     }
 
     private static void askWrong() {
@@ -556,6 +566,7 @@ public final class EdgeTest extends Check {
         sentence("lacks: NONE: the MOOD can be come to, or no PIECE has it.");
         MoodPlayer x = five();
         is(NONE, x.lacks(0, 7));
+        is(NONE, x.lacks(2, 7));
         is(NONE, x.lacks(1, 0));
         is(1, x.lacks(0, 0));
         x.joint(0, 4, 1, 99);
@@ -732,6 +743,12 @@ public final class EdgeTest extends Check {
         x.sting(4);
         x.go(7);
         is("0 2 2 0 7 4 2 9 9 6 2", nows(x, 0, 1, 2, 3, 4, 5, 6, 7, 8, 9, 10));
+        MoodPlayer y = five();
+        y.play(2);
+        y.layer(3, 8);
+        y.ask(6);
+        y.go(72 + 5);
+        is("-1 0 0 0 6 -1 0 0 2 5 0", nows(y, 0, 1, 2, 3, 4, 5, 6, 7, 8, 9, 10));
     }
 
     private static void nowWrong() {

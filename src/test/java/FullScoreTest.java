@@ -6,16 +6,21 @@ import java.util.Random;
 /**
  * Full scores (20 pieces, 100 joints), too large for the model: every call with wild arguments ends
  * with an answer or with the document's exception, and THE WAY is as cheap as all pairs' least costs say.
+ * No object has more calls than the document promises answers for.
  */
 public final class FullScoreTest {
     private static final long FAR = Long.MAX_VALUE / 4;
     private static final int[] WILD = {
         Integer.MIN_VALUE, -100, -2, -1, 0, 1, 2, 3, 4, 5, 7, 8, 9, 10, 11, 19, 20, 21, 23, 24, 63, 64, 65, 99, 100, 101,
         255, 256, 299, 300, 2400, 2401, 19999, 20000, 20001, Integer.MAX_VALUE};
+    private static final int MOST_CALLS = 512;
+    /** More than one round of a walk, with a way of 21 steps looked at twice, can take. */
+    private static final int CALLS_OF_A_ROUND = 70;
     private static int wrong = 0;
 
     private final Random random;
     private final MoodPlayer player = new MoodPlayer();
+    private int used = 0;
     private final List<int[]> pieces = new ArrayList<>();
     private final List<int[]> joints = new ArrayList<>();
     private int again = 10;
@@ -26,11 +31,13 @@ public final class FullScoreTest {
     }
 
     public static void main(String[] args) {
-        for (int seed = 0; seed < 60 && wrong == 0; seed++) {
-            FullScoreTest test = new FullScoreTest(seed);
-            test.tell();
-            test.walk();
-            test.wild();
+        for (int seed = 0; seed < 400 && wrong == 0; seed++) {
+            FullScoreTest walked = new FullScoreTest(seed);
+            walked.tell();
+            walked.walk();
+            FullScoreTest called = new FullScoreTest(seed);
+            called.tell();
+            called.wild();
         }
         if (wrong > 0) {
             System.exit(1);
@@ -51,6 +58,7 @@ public final class FullScoreTest {
             int kind = i < layers ? 2 : i < 2 * layers ? 3 : random.nextInt(2);
             int moods = kind > 1 ? 0 : random.nextInt(4) == 0 ? 1 << random.nextInt(8) : 0;
             int[] p = {kind, 1 + random.nextInt(8), 24 + 12 * random.nextInt(4), moods, 1 + random.nextInt(9)};
+            used++;
             check("piece", player.piece(p[0], p[1], p[2], p[3], p[4]), i);
             pieces.add(p);
         }
@@ -58,10 +66,36 @@ public final class FullScoreTest {
         for (int tries = 0; tries < 5000 && joints.size() < 100; tries++) {
             int from = random.nextInt(20);
             int[] j = {from, 1 + random.nextInt(pieces.get(from)[1]), random.nextInt(20), random.nextInt(range)};
-            if (player.joint(j[0], j[1], j[2], j[3]) != MoodPlayer.NONE) {
+            if (isNew(j)) {
+                used++;
+                check("joint", player.joint(j[0], j[1], j[2], j[3]), joints.size());
                 joints.add(j);
             }
         }
+    }
+
+    private boolean isNew(int[] joint) {
+        for (int[] j : joints) {
+            if (j[0] == joint[0] && j[1] == joint[1] && j[2] == joint[2]) {
+                return false;
+            }
+        }
+        return pieces.get(joint[0])[0] < 2 && pieces.get(joint[2])[0] < 2;
+    }
+
+    private int now(int what) {
+        used++;
+        return player.now(what);
+    }
+
+    private int way(int i) {
+        used++;
+        return player.way(i);
+    }
+
+    private long cost() {
+        used++;
+        return player.cost();
     }
 
     /** What a step costs from a piece with beats done and a part of a beat over. */
@@ -113,12 +147,13 @@ public final class FullScoreTest {
 
     /** The cost of the steps that way tells, or a number that no way has. */
     private long costOfRow(int mood) {
-        int piece = player.now(0);
-        int done = player.now(1);
-        int over = player.now(3);
+        int piece = now(0);
+        int done = now(1);
+        int over = now(3);
         long cost = 0;
-        for (int i = 0; i < player.way(MoodPlayer.NONE); i++) {
-            int step = player.way(i);
+        int steps = way(MoodPlayer.NONE);
+        for (int i = 0; i < steps; i++) {
+            int step = way(i);
             boolean open = step == 100 ? pieces.get(piece)[0] == 0
                 : joints.get(step)[0] == piece && joints.get(step)[1] > done;
             if (!open) {
@@ -133,33 +168,42 @@ public final class FullScoreTest {
     }
 
     private void walk() {
-        for (int i = 0; i < 60 && wrong == 0; i++) {
-            int piece = random.nextInt(20);
-            if (random.nextInt(3) == 0 && pieces.get(piece)[0] < 2) {
-                player.play(piece);
+        while (used <= MOST_CALLS - CALLS_OF_A_ROUND && wrong == 0) {
+            walkOn();
+        }
+        check("the walk is short enough", used <= MOST_CALLS ? 1 : 0, 1);
+    }
+
+    private void walkOn() {
+        int piece = random.nextInt(20);
+        if (random.nextInt(3) == 0 && pieces.get(piece)[0] < 2) {
+            used++;
+            player.play(piece);
+        }
+        if (random.nextInt(5) == 0) {
+            again = random.nextInt(100);
+            late = random.nextInt(4);
+            used += 2;
+            player.price(0, again);
+            player.price(1, late);
+        }
+        int mood = random.nextInt(8);
+        if (now(0) != MoodPlayer.NONE) {
+            used++;
+            int steps = player.ask(mood);
+            if (steps > 0) {
+                long least = leastFrom(now(0), now(1), now(3), mood);
+                check("cost", cost(), least);
+                check("the row's cost", costOfRow(mood), least);
+            } else if (steps == MoodPlayer.NONE) {
+                check("no way", leastFrom(now(0), now(1), now(3), mood), MoodPlayer.NONE);
             }
-            if (random.nextInt(5) == 0) {
-                again = random.nextInt(100);
-                late = random.nextInt(4);
-                player.price(0, again);
-                player.price(1, late);
-            }
-            int mood = random.nextInt(8);
-            if (player.now(0) != MoodPlayer.NONE) {
-                int steps = player.ask(mood);
-                if (steps > 0) {
-                    long least = leastFrom(player.now(0), player.now(1), player.now(3), mood);
-                    check("cost", player.cost(), least);
-                    check("the row's cost", costOfRow(mood), least);
-                } else if (steps == MoodPlayer.NONE) {
-                    check("no way", leastFrom(player.now(0), player.now(1), player.now(3), mood), MoodPlayer.NONE);
-                }
-            }
-            player.go(random.nextInt(300));
-            if (player.way(MoodPlayer.NONE) > 0) {
-                check("the cost that is left", player.cost(), leastFrom(player.now(0), player.now(1), player.now(3), mood));
-                check("the row that is left", costOfRow(mood), player.cost());
-            }
+        }
+        used++;
+        player.go(random.nextInt(300));
+        if (way(MoodPlayer.NONE) > 0) {
+            check("the cost that is left", cost(), leastFrom(now(0), now(1), now(3), mood));
+            check("the row that is left", costOfRow(mood), cost());
         }
     }
 
@@ -168,7 +212,7 @@ public final class FullScoreTest {
     }
 
     private void wild() {
-        for (int i = 0; i < 400; i++) {
+        for (; used < MOST_CALLS; used++) {
             try {
                 wildCall(random.nextInt(19));
             } catch (NoSuchElementException | IllegalArgumentException e) {

@@ -7,15 +7,20 @@ import java.util.Random;
 /**
  * Runs of calls drawn from fixed seeds, answered by MoodPlayer and by a plain model that
  * lets time go by one 24th after another and finds THE WAY by trying all rows of steps.
+ * No run has more calls than the document promises answers for.
  */
 public final class ModelTest {
     private static final int NONE = -1;
     private static final long NO_ELEMENT = Long.MIN_VALUE;
     private static final long BAD_ARGUMENT = Long.MIN_VALUE + 1;
+    private static final int MOST_CALLS = 512;
+    /** As many calls as a step with its glances, and the last look, may take. */
+    private static final int CALLS_LEFT_FOR_THE_LOOK = 100;
+    private static final int GLANCES = 4;
     private static int wrong = 0;
 
     public static void main(String[] args) {
-        for (int seed = 0; seed < 1500 && wrong < 10; seed++) {
+        for (int seed = 0; seed < 4000 && wrong < 10; seed++) {
             new Run(seed).go();
         }
         if (wrong > 0) {
@@ -496,6 +501,7 @@ public final class ModelTest {
         final StringBuilder calls = new StringBuilder();
         final int maxPieces;
         final int maxJoints;
+        int used = 0;
         boolean failed = false;
 
         Run(int seed) {
@@ -526,9 +532,16 @@ public final class ModelTest {
             for (int i = 0; i < 4; i++) {
                 call(1);
             }
-            for (int i = 0; i < 120 && !failed; i++) {
+            while (used <= MOST_CALLS - CALLS_LEFT_FOR_THE_LOOK && !failed) {
                 call(below(30));
-                look();
+                for (int i = 0; i < GLANCES; i++) {
+                    glance();
+                }
+            }
+            look();
+            if (used > MOST_CALLS) {
+                wrong++;
+                System.out.println("seed " + seed + ": the run is too long, " + used + " calls");
             }
         }
 
@@ -652,26 +665,65 @@ public final class ModelTest {
             }
         }
 
+        /** All that can be looked at. */
         void look() {
             for (int what = -1; what <= 11; what++) {
-                same("now(" + what + ")", now(what), model.now(what));
+                sameNow(what);
             }
             for (int i = -2; i <= 12; i++) {
-                same("way(" + i + ")", way(i), model.way(i));
+                sameWay(i);
             }
             same("cost()", player.cost(), model.cost());
             for (int p = -1; p <= model.pieces.size(); p++) {
-                same("level(" + p + ")", level(p), model.level(p));
+                sameLevel(p);
             }
-            int events = model.log.size();
-            for (int i : new int[] {-1, 0, 1, events - 4, events - 3, events - 2, events - 1, events}) {
+            for (int i : new int[] {-1, 0, 1, -3, -2}) {
                 for (int what = -1; what <= 3; what++) {
-                    same("log(" + i + ", " + what + ")", log(i, what), model.log(i, what));
+                    sameLog(i < -1 ? model.log.size() + i + 2 : i, what);
                 }
             }
+            sameReach();
+            sameLacks();
+        }
+
+        /** Something that can be looked at. */
+        void glance() {
+            switch (below(10)) {
+                case 0: case 1: case 2: sameNow(below(30) == 0 ? pick(-1, 11) : below(11)); break;
+                case 3: case 4: sameWay(pick(-2, -1, -1, 0, 0, 1, 2, 3)); break;
+                case 5: same("cost()", player.cost(), model.cost()); break;
+                case 6: sameLevel(somePiece()); break;
+                case 7: sameLog(model.log.size() - pick(0, 1, 1, 1, 2, 2, 3, 4, 300), pick(0, 0, 1, 1, 2, 2, 3, -1)); break;
+                case 8: sameReach(); break;
+                default: sameLacks();
+            }
+        }
+
+        void sameNow(int what) {
+            same("now(" + what + ")", now(what), model.now(what));
+        }
+
+        void sameWay(int i) {
+            same("way(" + i + ")", way(i), model.way(i));
+        }
+
+        void sameLevel(int p) {
+            same("level(" + p + ")", level(p), model.level(p));
+        }
+
+        void sameLog(int i, int what) {
+            same("log(" + i + ", " + what + ")", log(i, what), model.log(i, what));
+        }
+
+        void sameReach() {
             int p = somePiece();
             int mood = pick(0, 1, 2, 3, 7, 8, -1);
             same("reach(" + p + ", " + mood + ")", reach(p, mood), model.reach(p, mood));
+        }
+
+        void sameLacks() {
+            int p = somePiece();
+            int mood = pick(0, 1, 2, 3, 7, 8, -1);
             same("lacks(" + p + ", " + mood + ")", lacks(p, mood), model.lacks(p, mood));
         }
 
@@ -728,6 +780,7 @@ public final class ModelTest {
         }
 
         void same(String call, long got, long due) {
+            used++;
             if (!call.startsWith("now") && !call.startsWith("way") && !call.startsWith("cost")
                 && !call.startsWith("l") && !call.startsWith("reach") || call.startsWith("layer")
                 || call.startsWith("leave")) {

@@ -11,11 +11,11 @@ public final class RefusedTest extends Check {
     }
 
     public static void main(String[] args) {
-        refusedByNone();
-        refusedByFalse();
-        refusedByException();
-        looks();
-        refusedWhenFull();
+        check(RefusedTest::refusedByNone);
+        check(RefusedTest::refusedByFalse);
+        check(RefusedTest::refusedByException);
+        check(RefusedTest::looks);
+        check(RefusedTest::refusedWhenFull);
         end("refused calls change nothing");
     }
 

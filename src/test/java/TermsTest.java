@@ -1,66 +1,66 @@
 /** The sentences of 'What it is' and 'Terms' that name a boundary case, each with a test of its own. */
 public final class TermsTest extends Check {
     public static void main(String[] args) {
-        calls();
-        pieces();
-        kinds();
-        beats();
-        beat();
-        moods();
-        most();
-        joints();
-        jointsLieBetweenLoopsAndBridges();
-        jointsBeat();
-        jointsCost();
-        noTwoJoints();
-        pricesAtFirst();
-        pricesRange();
-        timeAtFirst();
-        silenceAtFirst();
-        turns();
-        openUntilMet();
-        behindABeatThatIsNotDone();
-        again();
-        lastPieceHasTheMood();
-        costOfAWay();
-        leastCost();
-        fewerSteps();
-        firstRow();
-        mayBeNone();
-        noSteps();
-        foundWhenAsked();
-        foundAnewOnBeginning();
-        foundAnewOnChange();
-        asLongAsOneIsOpen();
-        jointOfTheWay();
-        againOfTheWay();
-        lessTurnsThanMost();
-        noJointThere();
-        othersTakeTheJoint();
-        leastCostBehindLastBeat();
-        silenceWithoutJoint();
-        beginning();
-        met();
-        layersInOrder();
-        layersMultiple();
-        belowTop();
-        belowSixteen();
-        off();
-        silenceOfLayers();
-        rowOfStings();
-        noneSounds();
-        beatsLeft();
-        ownLength();
-        endsAhead();
-        silenceOfStings();
-        logged();
-        latestEvents();
-        allIsKept();
-        logIsNotKept();
-        fourSlots();
-        scoreStays();
-        wayAnewFromASlot();
-        timeAsKept();
+        check(TermsTest::calls);
+        check(TermsTest::pieces);
+        check(TermsTest::kinds);
+        check(TermsTest::beats);
+        check(TermsTest::beat);
+        check(TermsTest::moods);
+        check(TermsTest::most);
+        check(TermsTest::joints);
+        check(TermsTest::jointsLieBetweenLoopsAndBridges);
+        check(TermsTest::jointsBeat);
+        check(TermsTest::jointsCost);
+        check(TermsTest::noTwoJoints);
+        check(TermsTest::pricesAtFirst);
+        check(TermsTest::pricesRange);
+        check(TermsTest::timeAtFirst);
+        check(TermsTest::silenceAtFirst);
+        check(TermsTest::turns);
+        check(TermsTest::openUntilMet);
+        check(TermsTest::behindABeatThatIsNotDone);
+        check(TermsTest::again);
+        check(TermsTest::lastPieceHasTheMood);
+        check(TermsTest::costOfAWay);
+        check(TermsTest::leastCost);
+        check(TermsTest::fewerSteps);
+        check(TermsTest::firstRow);
+        check(TermsTest::mayBeNone);
+        check(TermsTest::noSteps);
+        check(TermsTest::foundWhenAsked);
+        check(TermsTest::foundAnewOnBeginning);
+        check(TermsTest::foundAnewOnChange);
+        check(TermsTest::asLongAsOneIsOpen);
+        check(TermsTest::jointOfTheWay);
+        check(TermsTest::againOfTheWay);
+        check(TermsTest::lessTurnsThanMost);
+        check(TermsTest::noJointThere);
+        check(TermsTest::othersTakeTheJoint);
+        check(TermsTest::leastCostBehindLastBeat);
+        check(TermsTest::silenceWithoutJoint);
+        check(TermsTest::beginning);
+        check(TermsTest::met);
+        check(TermsTest::layersInOrder);
+        check(TermsTest::layersMultiple);
+        check(TermsTest::belowTop);
+        check(TermsTest::belowSixteen);
+        check(TermsTest::off);
+        check(TermsTest::silenceOfLayers);
+        check(TermsTest::rowOfStings);
+        check(TermsTest::noneSounds);
+        check(TermsTest::beatsLeft);
+        check(TermsTest::ownLength);
+        check(TermsTest::endsAhead);
+        check(TermsTest::silenceOfStings);
+        check(TermsTest::logged);
+        check(TermsTest::latestEvents);
+        check(TermsTest::allIsKept);
+        check(TermsTest::logIsNotKept);
+        check(TermsTest::fourSlots);
+        check(TermsTest::scoreStays);
+        check(TermsTest::wayAnewFromASlot);
+        check(TermsTest::timeAsKept);
         end("the terms' sentences hold");
     }
 
@@ -610,6 +610,18 @@ public final class TermsTest extends Check {
         y.go(24);
         is(1, y.ask(0));
         is("1", way(y));
+        MoodPlayer z = new MoodPlayer();
+        z.piece(LOOP, 1, 24, 0, 1);
+        z.piece(LOOP, 2, 24, 0, 1);
+        z.piece(BRIDGE, 1, 24, 0, 1);
+        z.piece(LOOP, 1, 24, 1, 1);
+        z.joint(2, 1, 3, 0);
+        z.joint(1, 1, 2, 0);
+        z.joint(1, 2, 3, 0);
+        z.joint(0, 1, 1, 0);
+        z.play(0);
+        is(2, z.ask(0));
+        is("3 2", way(z));
     }
 
     private static void firstRow() {
@@ -653,6 +665,19 @@ public final class TermsTest extends Check {
         is("3 2", way(z));
         z.play(2);
         is("0", way(z));
+        MoodPlayer w = new MoodPlayer();
+        w.piece(LOOP, 1, 24, 0, 1);
+        w.piece(LOOP, 1, 24, 1, 1);
+        w.piece(LOOP, 1, 24, 1, 1);
+        w.piece(LOOP, 1, 24, 2, 1);
+        w.joint(0, 1, 1, 0);
+        w.joint(0, 1, 2, 0);
+        w.joint(1, 1, 3, 0);
+        w.play(0);
+        w.ask(1);
+        is("0 2", way(w));
+        w.ask(0);
+        is("0", way(w));
     }
 
     private static void mayBeNone() {
@@ -764,6 +789,16 @@ public final class TermsTest extends Check {
         is("100 0", way(y));
         y.joint(0, 2, 3, 0);
         is("2", way(y));
+        MoodPlayer z = three();
+        z.joint(0, 1, 1, 0);
+        z.play(0);
+        z.ask(0);
+        int without = z.piece(LOOP, 1, 24, 2, 1);
+        is("0", way(z));
+        z.play(without);
+        is("none", way(z));
+        z.joint(without, 1, 0, 0);
+        is("1 0", way(z));
     }
 
     private static void asLongAsOneIsOpen() {
@@ -1010,6 +1045,20 @@ public final class TermsTest extends Check {
         y.layer(1, 0);
         y.go(24);
         is("5 6 5", levels(y, 1, 2, 3));
+        MoodPlayer z = new MoodPlayer();
+        for (int i = 0; i < 19; i++) {
+            z.piece(LAYER, 1, 24, 0, 1);
+        }
+        z.piece(LOOP, 1, 24, 0, 1);
+        z.layer(0, 8);
+        z.layer(18, 8);
+        z.play(19);
+        z.go(24 * 7);
+        is("7 7", levels(z, 0, 18));
+        z.layer(9, 8);
+        z.go(24);
+        is("8 1 7", levels(z, 0, 9, 18));
+        is(16, z.now(7));
     }
 
     private static void layersMultiple() {

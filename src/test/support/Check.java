@@ -31,6 +31,16 @@ public class Check {
         sentence = words;
     }
 
+    /** Runs the test of a sentence; what it throws is told as its fault, and the others still run. */
+    public static void check(Runnable test) {
+        try {
+            test.run();
+        } catch (RuntimeException e) {
+            wrong++;
+            System.out.println("'" + sentence + "' ended with " + e);
+        }
+    }
+
     public static void is(Object due, Object got) {
         if (!String.valueOf(due).equals(String.valueOf(got))) {
             wrong++;
