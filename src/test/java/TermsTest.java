@@ -9,6 +9,7 @@ public final class TermsTest extends Check {
         check(TermsTest::moods);
         check(TermsTest::most);
         check(TermsTest::joints);
+        check(TermsTest::fullOfPiecesAndJoints);
         check(TermsTest::jointsLieBetweenLoopsAndBridges);
         check(TermsTest::jointsBeat);
         check(TermsTest::jointsCost);
@@ -265,6 +266,32 @@ public final class TermsTest extends Check {
         is("99", way(x));
         x.go(24);
         is("0 0 1 0", plays(x));
+    }
+
+    private static void fullOfPiecesAndJoints() {
+        sentence("at most 100");
+        MoodPlayer x = new MoodPlayer();
+        x.piece(BRIDGE, 64, 24, 0, 1);
+        x.piece(BRIDGE, 64, 24, 0, 1);
+        for (int i = 2; i < 20; i++) {
+            x.piece(LOOP, 1, 24, i == 19 ? 128 : 0, 1);
+        }
+        for (int i = 0; i < 100; i++) {
+            is(i, x.joint(i % 2, i / 2 + 1, 1 - i % 2, 0));
+        }
+        is("20 100", nows(x, 9, 10));
+        is("-1 -1", x.lacks(0, 6) + " " + x.lacks(19, 7));
+        is("19 19 219", x.lacks(0, 7) + " " + x.lacks(1, 7) + " " + x.lacks(2, 7));
+        is("-1 0", x.reach(0, 7) + " " + x.reach(19, 7));
+        x.play(0);
+        is(NONE, x.ask(7));
+        x.go(64 * 24);
+        is("-1 0 0 0", plays(x));
+        is(NONE, x.joint(0, 64, 19, 0));
+        x.play(19);
+        x.go(24);
+        is("19 0 2 0", plays(x));
+        is("1536:0:19 1536:4:7 1560:3:19", log(x, 2));
     }
 
     private static void jointsLieBetweenLoopsAndBridges() {
