@@ -36,8 +36,10 @@ public final class MoodPlayer {
 
     /** The step AGAIN stands behind all joints' numbers. */
     private static final int STEP_AGAIN = 100;
-    /** One step out of what plays, then no piece's beginning twice. */
-    private static final int MAX_STEPS = MAX_PIECES + 1;
+    /** Each step of the way leads to a beginning, and to none twice. */
+    private static final int MAX_STEPS = MAX_PIECES;
+    /** Behind every time that 512 calls can come to. */
+    private static final long NEVER = 1L << 62;
 
     private static final int PIECE_PLAYED = 0;
     private static final int JOINT_BY_WAY = 1;
@@ -290,7 +292,7 @@ public final class MoodPlayer {
     }
 
     private long nextMoment() {
-        long next = Long.MAX_VALUE;
+        long next = NEVER;
         if (state.plays != NONE) {
             next = beatEnd();
         }

@@ -8,7 +8,10 @@ import java.nio.file.Path;
 import java.util.ArrayList;
 import java.util.Arrays;
 import java.util.List;
+import java.util.Set;
 import java.util.TreeSet;
+import java.util.regex.Matcher;
+import java.util.regex.Pattern;
 
 /** The public face of the class, and the parts of LANGUAGE.md that a look at the source can tell. */
 public final class FaceTest {
@@ -36,13 +39,21 @@ public final class FaceTest {
     private static final String[] RULED_OUT = {
         "->", "::", "finally", "synchronized", "assert ", "catch", "Exact(", "protected", "System.out", "Random",
         "java.io", "java.time", "currentTime", "nanoTime", "Thread", "hashCode", "toString", "while (true)"};
+    /** What the class may take of the library, of all that LANGUAGE.md's rule 4 lists. */
+    private static final Set<String> LIBRARY = Set.of("Math.min", "Arrays.fill", "System.arraycopy");
+    /** The lines of a method that LANGUAGE.md's rule 11 has in mind. */
+    private static final int MOST_LINES = 60;
     private static int wrong = 0;
 
     public static void main(String[] args) throws IOException {
         face();
         members(MoodPlayer.class);
         names();
-        source();
+        String text = Files.readString(SOURCE).replaceAll("(?s)/\\*.*?\\*/", "").replaceAll("//[^\n]*", "");
+        words(text);
+        library(text);
+        statics();
+        lengths(text);
         if (wrong > 0) {
             System.exit(1);
         }
@@ -83,7 +94,7 @@ public final class FaceTest {
     }
 
     private static void members(Class<?> of) {
-        for (Field f : MoodPlayer.class.getDeclaredFields()) {
+        for (Field f : of.getDeclaredFields()) {
             boolean none = f.getName().equals("NONE");
             check(f.getName() + " is private", Modifier.isPrivate(f.getModifiers()), !none);
             check(f.getName() + " is final", Modifier.isFinal(f.getModifiers()), true);
@@ -109,8 +120,7 @@ public final class FaceTest {
         }
     }
 
-    private static void source() throws IOException {
-        String text = Files.readString(SOURCE).replaceAll("(?s)/\\*.*?\\*/", "").replaceAll("//[^\n]*", "");
+    private static void words(String text) {
         for (String word : RULED_OUT) {
             check("the source holds " + word, text.contains(word), false);
         }
@@ -118,6 +128,48 @@ public final class FaceTest {
             if (line.startsWith("import ")) {
                 check(line, line.equals("import java.util.Arrays;")
                     || line.equals("import java.util.NoSuchElementException;"), true);
+            }
+        }
+    }
+
+    /** All that is used by a class's name is the class's own, or of the library that is allowed. */
+    private static void library(String text) {
+        TreeSet<String> own = new TreeSet<>();
+        for (Class<?> inside : MoodPlayer.class.getDeclaredClasses()) {
+            own.add(inside.getSimpleName());
+        }
+        Matcher used = Pattern.compile("\\b([A-Z]\\w*)\\.(\\w+)").matcher(text);
+        while (used.find()) {
+            boolean allowed = own.contains(used.group(1)) || LIBRARY.contains(used.group());
+            check(used.group() + " is allowed", allowed, true);
+        }
+        Matcher thrown = Pattern.compile("throw\\b(?! new (NoSuchElement|IllegalArgument)Exception\\(\"[^\"]*\"\\);)")
+            .matcher(text.replaceAll("\\bthrows\\b", ""));
+        check("a throw of another form", thrown.find(), false);
+    }
+
+    private static void statics() {
+        for (Class<?> inside : MoodPlayer.class.getDeclaredClasses()) {
+            int fields = 0;
+            for (Field f : inside.getDeclaredFields()) {
+                check(inside.getName() + "." + f.getName() + " is static", Modifier.isStatic(f.getModifiers()), false);
+                fields++;
+            }
+            check(inside.getName() + "'s fields", fields <= 20, true);
+        }
+    }
+
+    /** A method ends at the brace below its own beginning. */
+    private static void lengths(String text) {
+        String[] lines = text.split("\n");
+        for (int i = 0; i < lines.length; i++) {
+            Matcher begins = Pattern.compile("( +)[\\w\\[\\], ]+\\(.*\\{").matcher(lines[i]);
+            if (begins.matches()) {
+                int end = i;
+                while (end < lines.length && !lines[end].equals(begins.group(1) + "}")) {
+                    end++;
+                }
+                check(lines[i].trim() + " is short", end - i < MOST_LINES, true);
             }
         }
     }
